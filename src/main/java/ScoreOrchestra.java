@@ -554,7 +554,7 @@ public final class ScoreOrchestra {
       return note;
     }
     if (kind == 'w') {
-      return Math.min(2 * note, 12);
+      return note > 6 ? 12 : 2 * note;
     }
     return note % 2 == 0 ? 1 : 5;
   }
@@ -1038,7 +1038,7 @@ public final class ScoreOrchestra {
 
     // The sign 0, which cannot be typed, where the text has ended.
     char signAt(int index) {
-      return has(index) ? signs[index] : 0;
+      return index >= 0 && index < length && index < signs.length ? signs[index] : 0;
     }
   }
 

@@ -11,6 +11,7 @@ public final class BeatsTest {
     beatsAreConducted();
     theLoudestSectionTires();
     theFirstOfEquallyLoudTires();
+    aSilentSectionDoesNotTire();
     aRestEndsBesideAMask();
     aRemovedSectionLeavesItsFatigue();
     sectionsThatAreNotThere();
@@ -103,6 +104,16 @@ public final class BeatsTest {
     CHECK.due("22: section 1, the first of the loudest", 1, () -> x.fatigue(1));
     CHECK.due("22: section 2", 0, () -> x.fatigue(2));
     CHECK.due("22: section 3", 0, () -> x.fatigue(3));
+  }
+
+  private static void aSilentSectionDoesNotTire() {
+    ScoreOrchestra x = Orchestras.with("s:9", "s:1", "s:1");
+    x.setMasked(0, 0, true);
+    x.setLimit(1);
+    CHECK.due("12: two soft sections", 2, () -> x.conductBeats(1));
+    CHECK.due("22: the silent one", 0, () -> x.fatigue(0));
+    CHECK.due("22: the first soft one", 1, () -> x.fatigue(1));
+    CHECK.due("22: the second soft one", 0, () -> x.fatigue(2));
   }
 
   private static void aRestEndsBesideAMask() {

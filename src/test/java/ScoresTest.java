@@ -114,6 +114,7 @@ public final class ScoresTest {
     x.setMasked(1, 0, true);
     CHECK.due("25: kinds and masks do not matter", true, () -> x.areAlike(0, 1));
     CHECK.due("25: one note is different", false, () -> x.areAlike(0, 2));
+    CHECK.due("25: the first note is different", false, () -> Orchestras.with("s:12", "s:32").areAlike(0, 1));
     CHECK.due("25: a column more", false, () -> x.areAlike(0, 3));
     CHECK.due("25: a row more", false, () -> x.areAlike(4, 0));
     CHECK.due("25: with itself", true, () -> x.areAlike(2, 2));

@@ -9,6 +9,7 @@ public final class SectionsTest {
     sectionsAreAdded();
     wrongSectionsAreNotAdded();
     sectionsAreRemoved();
+    removedSectionsLeaveNothing();
     aSectionIsAskedFor();
     CHECK.end();
   }
@@ -84,6 +85,36 @@ public final class SectionsTest {
     x.removeSection(0);
     CHECK.due("3: none is left", 0, () -> x.removeSection(0));
     CHECK.due("3: none can be removed", IndexOutOfBoundsException.class, () -> x.removeSection(0));
+  }
+
+  private static void removedSectionsLeaveNothing() {
+    ScoreOrchestra x = Orchestras.with("s:1", "s:2", "w:3", "s:9", "s:5");
+    x.setLimit(18);
+    x.conductBeats(3);
+    x.setMasked(3, 0, true);
+    CHECK.due("23: it rests", "xf0r2", () -> Orchestras.mask(x, 3));
+    x.conductBeats(1);
+    x.removeSection(3);
+    CHECK.due("2: added in its place", 4, () -> x.addSection('w', 2, 2));
+    CHECK.due("2: no rest and no mask of the removed one", "..f0", () -> Orchestras.mask(x, 4));
+    CHECK.due("2: no note of the removed one", "w:00/00", () -> Orchestras.score(x, 4));
+    CHECK.due("36: no beat of the removed one", 0, () -> x.playedVolume(4));
+    x.setNote(4, 1, 1, 9);
+    CHECK.due("3: the one before stays alone", "s:5", () -> Orchestras.score(x, 3));
+    ScoreOrchestra tired = Orchestras.with("s:1", "s:1", "s:1", "s:1", "s:9");
+    tired.setLimit(12);
+    tired.conductBeats(1);
+    CHECK.due("22: it is tired", 1, () -> tired.fatigue(4));
+    tired.removeSection(4);
+    tired.addSection('s', 1, 1);
+    CHECK.due("2: no fatigue of the removed one", 0, () -> tired.fatigue(4));
+    tired.removeSection(0);
+    tired.removeSection(0);
+    tired.addSection('d', 1, 1);
+    tired.addSection('w', 1, 1);
+    tired.setNote(4, 0, 0, 6);
+    CHECK.due("3: none of the others has its note", "d:0", () -> Orchestras.score(tired, 3));
+    CHECK.due("30: the sum of all five", 1 + 1 + 12, tired::nextTotal);
   }
 
   private static void aSectionIsAskedFor() {

@@ -10,6 +10,8 @@ public final class UndoTest {
     eightChangesAreUndone();
     changesAfterUndo();
     everythingIsUndone();
+    fatigueIsUndone();
+    greatestTotalsAreUndone();
     snapshotsAreRestored();
     whatIsNotCovered();
     CHECK.end();
@@ -126,6 +128,36 @@ public final class UndoTest {
     CHECK.due("41: the log of beat 5", 11, () -> x.loggedTotal(4));
     CHECK.due("41: nothing older", NoSuchElementException.class, () -> x.loggedTotal(5));
     CHECK.due("46: consistent", true, x::isConsistent);
+  }
+
+  private static void fatigueIsUndone() {
+    ScoreOrchestra x = Orchestras.with("s:9");
+    x.setLimit(8);
+    x.conductBeats(2);
+    x.save();
+    x.conductBeats(4);
+    x.setNote(0, 0, 0, 1);
+    x.undo();
+    x.undo();
+    CHECK.due("54: the fatigue after beat 2", 2, () -> x.fatigue(0));
+    x.conductBeats(1);
+    x.restore();
+    CHECK.due("56: the fatigue after beat 2", 2, () -> x.fatigue(0));
+    CHECK.due("56: the rest after beat 2", 0, () -> x.restingBeats(0));
+    CHECK.due("56: the breaks after beat 2", 2, x::breakCount);
+  }
+
+  private static void greatestTotalsAreUndone() {
+    ScoreOrchestra x = Orchestras.with("s:15");
+    x.conductBeats(1);
+    x.save();
+    x.conductBeats(1);
+    CHECK.due("40: of two beats", 5, x::greatestTotal);
+    x.undo();
+    CHECK.due("40: undone", 1, x::greatestTotal);
+    x.conductBeats(1);
+    x.restore();
+    CHECK.due("40: restored", 1, x::greatestTotal);
   }
 
   private static String sounds(ScoreOrchestra x) {

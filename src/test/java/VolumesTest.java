@@ -73,6 +73,11 @@ public final class VolumesTest {
     CHECK.due("29: section 0 in beat 6, resting", 0, () -> x.nextVolume(0));
     CHECK.due("30: beat 6", 3, x::nextTotal);
     CHECK.due("13: still six beats", 6, x::beatCount);
+    CHECK.due("29: section 0 in beat 7, still resting", 0, () -> {
+      x.conductBeats(1);
+      return x.nextVolume(0);
+    });
+    x.undo();
     CHECK.due("23: still the same rest", 2, () -> x.restingBeats(0));
     CHECK.due("29: no section 3", IndexOutOfBoundsException.class, () -> x.nextVolume(3));
     CHECK.due("29: no section -1", IndexOutOfBoundsException.class, () -> x.nextVolume(-1));
