@@ -1,4 +1,5 @@
 import java.util.NoSuchElementException;
+import java.util.function.Function;
 
 // Promises 54 to 56: undo and the snapshot.
 public final class UndoTest {
@@ -18,43 +19,27 @@ public final class UndoTest {
   }
 
   private static void eachChangeIsUndone() {
+    undoes("addSection", x -> x.addSection('d', 1, 1));
+    undoes("removeSection", x -> x.removeSection(0));
+    undoes("setNote", x -> x.setNote(0, 1, 1, 9));
+    undoes("setMasked", x -> x.setMasked(0, 1, true));
+    undoes("transpose", x -> x.transpose(0));
+    undoes("reverse", x -> x.reverse(0));
+    undoes("raise", x -> x.raise(0, 5));
+    undoes("setTempo", x -> x.setTempo(4));
+    undoes("setLimit", x -> x.setLimit(3));
+    undoes("conductWave", ScoreOrchestra::conductWave);
+    undoes("conductBeats", x -> x.conductBeats(7));
+    undoes("runScript", x -> Orchestras.run(x, "limit 1;wave;drop 1"));
+  }
+
+  private static void undoes(String name, Function<ScoreOrchestra, Object> change) {
     ScoreOrchestra x = Orchestras.with("s:12/34", "w:5");
-    undoes(x, "addSection", () -> x.addSection('d', 1, 1));
-    undoes(x, "removeSection", () -> x.removeSection(0));
-    undoes(x, "setNote", () -> x.setNote(0, 1, 1, 9));
-    undoes(x, "setMasked", () -> x.setMasked(0, 1, true));
-    undoes(x, "transpose", () -> x.transpose(0));
-    undoes(x, "reverse", () -> x.reverse(0));
-    undoes(x, "raise", () -> x.raise(0, 5));
-    undoes(x, "setTempo", () -> x.setTempo(4));
-    undoes(x, "setLimit", () -> x.setLimit(3));
-    undoes(x, "conductWave", x::conductWave);
-    undoes(x, "conductBeats", () -> x.conductBeats(7));
-    undoes(x, "runScript", () -> Orchestras.run(x, "limit 1;wave;drop 1"));
-  }
-
-  private static void undoes(ScoreOrchestra x, String name, Check.Call change) {
-    String before = view(x);
-    CHECK.due("54: " + name + " is a change", false, () -> {
-      change.answer();
-      return view(x).equals(before);
-    });
+    String before = Views.of(x);
+    change.apply(x);
+    CHECK.due("54: " + name + " is a change", false, () -> Views.of(x).equals(before));
     CHECK.due("54: " + name + " is undone, those before are left", 7, x::undo);
-    CHECK.due("54: the state before " + name, before, () -> view(x));
-    x.setTempo(x.tempo());
-  }
-
-  private static String view(ScoreOrchestra x) {
-    StringBuilder view = new StringBuilder();
-    for (int i = 0; i < x.sectionCount(); i++) {
-      view.append(Orchestras.score(x, i)).append(' ').append(Orchestras.mask(x, i)).append(' ')
-          .append(x.playedVolume(i)).append(' ');
-    }
-    view.append(x.tempo()).append(' ').append(x.limit()).append(' ').append(x.beatCount()).append(' ')
-        .append(x.breakCount()).append(' ').append(x.totalVolume()).append(' ').append(x.totalVolumeBySounds())
-        .append(' ').append(Check.outcome(() -> x.loggedTotal(0))).append(' ')
-        .append(Check.outcome(x::greatestTotal));
-    return view.toString();
+    CHECK.due("54: the state before " + name, before, () -> Views.of(x));
   }
 
   private static void onlyChangesAreUndone() {
@@ -115,16 +100,14 @@ public final class UndoTest {
     ScoreOrchestra x = Orchestras.with("s:94", "w:12");
     x.setLimit(10);
     x.conductBeats(5);
-    String before = view(x);
-    String sounds = sounds(x);
+    String before = Views.of(x);
     x.conductBeats(40);
     x.removeSection(0);
     x.conductBeats(12);
     CHECK.due("54: the removed section's beats", 7, x::undo);
     x.undo();
     x.undo();
-    CHECK.due("54: the state of beat 5", before, () -> view(x));
-    CHECK.due("54: the sounds of beat 5", sounds, () -> sounds(x));
+    CHECK.due("54: the state of beat 5", before, () -> Views.of(x));
     CHECK.due("41: the log of beat 5", 11, () -> x.loggedTotal(4));
     CHECK.due("41: nothing older", NoSuchElementException.class, () -> x.loggedTotal(5));
     CHECK.due("46: consistent", true, x::isConsistent);
@@ -160,16 +143,6 @@ public final class UndoTest {
     CHECK.due("40: restored", 1, x::greatestTotal);
   }
 
-  private static String sounds(ScoreOrchestra x) {
-    StringBuilder sounds = new StringBuilder();
-    for (char kind : new char[] {'s', 'w', 'd'}) {
-      for (int note = 1; note <= 9; note++) {
-        sounds.append(x.soundCount(kind, note)).append(' ');
-      }
-    }
-    return sounds.toString();
-  }
-
   private static void snapshotsAreRestored() {
     ScoreOrchestra x = new ScoreOrchestra();
     CHECK.due("56: no snapshot", IllegalStateException.class, x::restore);
@@ -184,19 +157,19 @@ public final class UndoTest {
     Orchestras.add(x, "w:12");
     Orchestras.add(x, "s:3");
     x.conductBeats(4);
-    String before = view(x);
+    String before = Views.of(x);
     CHECK.due("55: two sections", 2, x::save);
     x.removeSection(0);
     x.setNote(0, 0, 0, 9);
     CHECK.due("54: save is not a change", 7, x::undo);
     x.conductWave();
     CHECK.due("56: two sections", 2, x::restore);
-    CHECK.due("56: the later snapshot", before, () -> view(x));
+    CHECK.due("56: the later snapshot", before, () -> Views.of(x));
     x.setTempo(5);
     x.setNote(0, 0, 0, 9);
     CHECK.due("54: changes after the snapshot", 1, x::undo);
     CHECK.due("56: the snapshot is kept", 2, x::restore);
-    CHECK.due("56: once more", before, () -> view(x));
+    CHECK.due("56: once more", before, () -> Views.of(x));
     CHECK.due("56: nothing to undo again", IllegalStateException.class, x::undo);
   }
 
