@@ -179,8 +179,8 @@ final class AccountBoundaries {
   }
 
   private void sectionByVolume() {
-    s.promise(42, "Returns the section at a rank when sections are sorted by played volume in descending order, then by "
-        + "fatigue in ascending order, then by index in ascending order.");
+    s.promise(42, "Returns the section at a rank when sections are sorted by played volume in descending order, then "
+        + "by fatigue in ascending order, then by index in ascending order.");
     ScoreOrchestra x = Orchestras.with("s:1", "s:1", "s:1");
     rankAs(x, "nothing played", 0, 1, 2);
     x.conductBeats(1);

@@ -58,6 +58,19 @@ final class ChangeBoundaries {
     x.addSection('w', 1, 1);
     s.due("the smallest", "w:0", () -> Orchestras.score(x, 2));
 
+    for (int beats = 1; beats <= 3; beats++) {
+      ScoreOrchestra tired = Orchestras.with("s:1", "s:1", "s:1", "s:1", "s:9");
+      tired.setLimit(12);
+      tired.setMasked(4, 5, true);
+      tired.conductBeats(beats);
+      tired.removeSection(4);
+      tired.addSection('d', 6, 6);
+      String when = "in the place of one that has played " + beats + " beats";
+      s.due(when, "d:000000/000000/000000/000000/000000/000000", () -> Orchestras.score(tired, 4));
+      s.due(when + ", its mask, fatigue and rest", "......f0", () -> Orchestras.mask(tired, 4));
+      s.due(when + ", its volume", 0, () -> tired.playedVolume(4));
+    }
+
     s.promise(2, "Returns the index of the section.");
     ScoreOrchestra five = new ScoreOrchestra();
     for (int i = 0; i < 5; i++) {
@@ -133,7 +146,8 @@ final class ChangeBoundaries {
     s.due("0", 0, () -> x.setNote(0, 1, 2, 9));
     s.due("the same", 9, () -> x.setNote(0, 1, 2, 9));
 
-    s.promise(4, "Throws IndexOutOfBoundsException if there is no such section, or its score has no such row or column");
+    s.promise(4, "Throws IndexOutOfBoundsException if there is no such section, or its score has no such row or "
+        + "column");
     s.noSuchPlace("setNote", (y, at) -> y.setNote(at[0], at[1], at[2], 5));
 
     s.promise(4, "Throws IllegalArgumentException if note is not between 0 and 9");

@@ -37,9 +37,9 @@ final class OutputBoundaries {
   }
 
   private void renderMask() {
-    s.promise(48, "Replaces the output text by the columns of a section: for each column of its score \"x\" if it is in "
-        + "the mask or \".\" otherwise, then \"f\" and the fatigue, and \"r\" and the number of beats for which it rests "
-        + "if it rests, as in \".x.f2r1\".");
+    s.promise(48, "Replaces the output text by the columns of a section: for each column of its score \"x\" if it is "
+        + "in the mask or \".\" otherwise, then \"f\" and the fatigue, and \"r\" and the number of beats for which it "
+        + "rests if it rests, as in \".x.f2r1\".");
     ScoreOrchestra x = Orchestras.with("s:9");
     s.due("one column", ".f0", () -> Orchestras.mask(x, 0));
     x.setLimit(8);

@@ -115,7 +115,8 @@ final class QuestionBoundaries {
     s.due("the last", 2, () -> x.note(1, 1, 2));
     s.due("a note 0", 0, () -> x.note(1, 1, 0));
 
-    s.promise(20, "Throws IndexOutOfBoundsException if there is no such section, or its score has no such row or column");
+    s.promise(20, "Throws IndexOutOfBoundsException if there is no such section, or its score has no such row or "
+        + "column");
     s.noSuchPlace("note", (y, at) -> y.note(at[0], at[1], at[2]));
   }
 

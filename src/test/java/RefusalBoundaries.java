@@ -110,7 +110,8 @@ final class RefusalBoundaries {
   }
 
   // Two objects are made alike; after the refused call they must still answer alike to all that can be asked.
-  private void refuses(String name, Class<?> thrown, Supplier<ScoreOrchestra> maker, Function<ScoreOrchestra, Object> call) {
+  private void refuses(String name, Class<?> thrown, Supplier<ScoreOrchestra> maker,
+      Function<ScoreOrchestra, Object> call) {
     ScoreOrchestra called = maker.get();
     s.due(name, thrown, () -> call.apply(called));
     s.due(name + " changes nothing", answers(maker.get()), () -> answers(called));

@@ -72,7 +72,8 @@ final class ScriptBoundaries {
         + "\"raise \" digit \" \" ( \"+\" | \"-\" ) digit | \"tempo \" digit | \"limit \" number | \"wave\" | \"beat\" "
         + "[ \" \" number ]");
     for (String command : new String[] {"add s16", "add w61", "add d11", "drop 0", "note 0 00=9", "mask 0 5+",
-        "mask 0 0-", "flip 0", "turn 0", "raise 0 +9", "raise 0 -9", "tempo 5", "limit 99", "wave", "beat", "beat 40"}) {
+        "mask 0 0-", "flip 0", "turn 0", "raise 0 +9", "raise 0 -9", "tempo 5", "limit 99", "wave", "beat",
+        "beat 40"}) {
       s.due(command, 1, () -> Orchestras.run(Orchestras.with("s:0"), command));
     }
     for (String command : new String[] {"add", "add ", "add s", "add s1", "add x11", "add s111", "add  s11", "ADD s11",

@@ -180,6 +180,7 @@ final class Sentences {
   }
 
   private static boolean isIntroduction(String sentence) {
-    return sentence.matches("(A score is a matrix|A conductor beats|The class also|It is not thread-safe|All integer).*");
+    return sentence.matches(
+        "(A score is a matrix|A conductor beats|The class also|It is not thread-safe|All integer).*");
   }
 }

@@ -117,7 +117,8 @@ final class TermBoundaries {
       int row = i / 6;
       int column = i % 6;
       s.due("initially, " + row + ", " + column, 0, () -> x.note(0, row, column));
-      s.due("before the first note, " + row + ", " + column, 0, () -> x.setNote(0, row, column, 1 + (row + column) % 9));
+      int note = 1 + (row + column) % 9;
+      s.due("before the first note, " + row + ", " + column, 0, () -> x.setNote(0, row, column, note));
     }
     s.due("each has its own", "d:123456/234567/345678/456789/567891/678912", () -> Orchestras.score(x, 0));
     for (int i = 0; i <= 9; i++) {
@@ -331,6 +332,11 @@ final class TermBoundaries {
     s.due("one section", 8, () -> Orchestras.with("s:8").conductBeats(1));
     s.due("five sections", 1 + 4 + 5 + 4 + 10,
         () -> Orchestras.with("s:1", "w:2", "d:3", "s:4", "w:5").conductBeats(1));
+    ScoreOrchestra x = Orchestras.with("s:1", "w:2", "d:3", "s:4", "w:5");
+    x.removeSection(2);
+    s.due("four sections that were five", 1 + 4 + 4 + 10, () -> x.conductBeats(1));
+    x.removeSection(0);
+    s.due("three sections that were five", 4 + 4 + 10, () -> x.conductBeats(1));
     String winds = LARGEST.replace('s', 'w');
     s.due("the greatest of all totals", 360,
         () -> Orchestras.with(winds, winds, winds, winds, winds).conductBeats(1));
