@@ -575,6 +575,10 @@ public final class ScoreOrchestra {
     return (char) ('0' + digit);
   }
 
+  private static void copyNumbers(int[] from, int[] to) {
+    System.arraycopy(from, 0, to, 0, Math.min(from.length, to.length));
+  }
+
   private static int leastCommonMultiple(int first, int second) {
     int divisor = greatestCommonDivisor(first, second);
     return divisor == 0 ? 0 : first / divisor * second;
@@ -620,7 +624,7 @@ public final class ScoreOrchestra {
       kind = other.kind;
       rows = other.rows;
       columns = other.columns;
-      System.arraycopy(other.notes, 0, notes, 0, notes.length);
+      copyNumbers(other.notes, notes);
       mask = other.mask;
       fatigue = other.fatigue;
       resting = other.resting;
@@ -797,8 +801,8 @@ public final class ScoreOrchestra {
       breaks = other.breaks;
       greatest = other.greatest;
       total = other.total;
-      System.arraycopy(other.sounds, 0, sounds, 0, sounds.length);
-      System.arraycopy(other.log, 0, log, 0, log.length);
+      copyNumbers(other.sounds, sounds);
+      copyNumbers(other.log, log);
     }
 
     boolean hasSection(int section) {
@@ -905,19 +909,20 @@ public final class ScoreOrchestra {
 
     int playBeat() {
       int beatTotal = 0;
-      int loudest = 0;
+      Section loudest = null;
       int greatestVolume = 0;
       for (int i = 0; i < count && i < sections.length; i++) {
         int volume = playSection(sections[i]);
         beatTotal += volume;
         if (volume > greatestVolume) {
           greatestVolume = volume;
-          loudest = i;
+          loudest = sections[i];
         }
       }
-      if (beatTotal > limit) {
+      // A total above the limit is above 0, so one of the sections was the loudest.
+      if (beatTotal > limit && loudest != null) {
         breaks++;
-        sections[loudest].tire();
+        loudest.tire();
       }
       logTotal(beatTotal);
       return beatTotal;
