@@ -1,6 +1,7 @@
 import java.io.IOException;
 import java.lang.reflect.Method;
 import java.lang.reflect.Modifier;
+import java.nio.file.FileVisitOption;
 import java.nio.file.Files;
 import java.nio.file.Path;
 import java.util.ArrayList;
@@ -113,8 +114,9 @@ public final class ReadmeTest {
     return printed;
   }
 
+  // Links are followed, as the documents may be one.
   private static List<Path> paths(Path root) throws IOException {
-    try (Stream<Path> paths = Files.walk(root)) {
+    try (Stream<Path> paths = Files.walk(root, FileVisitOption.FOLLOW_LINKS)) {
       return new ArrayList<>(paths.toList());
     }
   }
