@@ -107,7 +107,7 @@ public final class ReadmeTest {
 
   private String printed(String commands, int exitCode) throws IOException, InterruptedException {
     Process shell = new ProcessBuilder("sh", "-e", "-c", commands).directory(folder.toFile())
-        .redirectErrorStream(true).start();
+        .redirectError(ProcessBuilder.Redirect.INHERIT).start();
     String printed = new String(shell.getInputStream().readAllBytes(), java.nio.charset.StandardCharsets.UTF_8);
     int ended = shell.waitFor();
     CHECK.due("exit code of\n" + commands + printed, exitCode, () -> ended);
